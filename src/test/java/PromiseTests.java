@@ -16,15 +16,18 @@ public final class PromiseTests {
         clearAndSections();
         isStable();
         about();
+        certificateEdges();
         echo();
         plan();
         planChoice();
+        planTies();
         planned();
         forge();
         check();
         checkEdges();
         told();
         sample();
+        shifts();
         ways();
         kept();
         drift();
@@ -173,6 +176,27 @@ public final class PromiseTests {
         stableAndHard(32767, 32767, 0, 1);
     }
 
+    private static void certificateEdges() {
+        // REST(M) is just ONE / 2.
+        stableAndHard(-14881, 3405, 1, 0);
+        FilterBench x = new FilterBench();
+        x.section(0, 0, 1, -14881, 3405);
+        long[] want = {1, 0, 4, 14697239269L, ONE / 2, 29394478538L, 1794097};
+        for (int what = 0; what <= 6; what++) due("6: REST ONE / 2, " + what, x.about(0, what), want[what]);
+        x.plan(40, 10, 0);
+        due("11: REST ONE / 2", x.check(), 0);
+        // The last M that is looked at, and one more.
+        stableAndHard(-1054, -15308, 1, 0);
+        stableAndHard(-991, -15371, 1, 1);
+        x.clear();
+        x.section(1, 0, 0, -1054, -15308);
+        due("6: M 1000", x.about(0, 2), 1000);
+        // The greatest NORM below 2^44, one above it, and a SUM above 2^46, which 65536 would take out of 64 bits.
+        stableAndHard(-31795, 15426, 1, 0);
+        stableAndHard(-31790, 15419, 1, 1);
+        stableAndHard(-32552, 16169, 1, 1);
+    }
+
     private static void stableAndHard(int a1, int a2, int isStable, int isHard) {
         FilterBench x = new FilterBench();
         x.section(1, 1, 1, a1, a2);
@@ -270,6 +294,44 @@ public final class PromiseTests {
         due("8: the less SLIP", x.planned(1, 8), 3);
     }
 
+    /** More of the choice: ties, and what is not good. */
+    private static void planTies() {
+        FilterBench x = new FilterBench();
+        x.section(1000, 0, 0, 0, 0);
+        x.section(32767, 32767, 32767, 0, 0);
+        due("8: plan(40, 4, 0)", x.plan(40, 4, 0), 24);
+        due("8: the less SLIP, not the first order", x.planned(0, 0), 1);
+        x.sample(1);
+        due("14: by the order of the plan", x.kept(0, 2), 33553408);
+        due("14: then the other", x.kept(1, 0), 33553408);
+        due("14: and its y", x.kept(1, 2), 2047937);
+        // One bit less of FINE and of SHIFT has the same OUT and SLIP.
+        x = new FilterBench();
+        x.section(16384, 32767, 0, 0, 0);
+        due("8: plan(40, 20, 0)", x.plan(40, 20, 0), 18);
+        due("8: the greater FINE was first", x.told(0), 19);
+        due("8: with a SHIFT", x.planned(0, 6), 1);
+        // One of the orders has an OUT below 0.
+        x = new FilterBench();
+        x.section(32767, 32767, 32767, 0, 0);
+        x.section(1000, 0, 0, 0, 0);
+        due("8: plan(16, 15, 0)", x.plan(16, 15, 0), 0);
+        due("12: only one was good", x.told(6), 1);
+        // SHIFT 12 is the greatest: the finest one needs 13.
+        x = new FilterBench();
+        x.section(32767, 32767, 0, -31795, 15426);
+        due("8: plan(28, 3, 0)", x.plan(28, 3, 0), 11);
+        due("8: FINE", x.told(0), 23);
+        due("8: SHIFT", x.planned(0, 6), 12);
+        due("8: good ones", x.told(6), 24);
+        // NEAREST slips half as far.
+        x = same();
+        x.plan(40, 10, 1);
+        due("9: SLIP of CARRIED", x.planned(0, 8), 2);
+        x.plan(40, 10, 2);
+        due("9: SLIP of NEAREST", x.planned(0, 8), 1);
+    }
+
     private static void planned() {
         FilterBench x = two();
         long[][] want = {
@@ -337,6 +399,7 @@ public final class PromiseTests {
         checked(x, 0, 1, (1L << 32) + 4, 12);
         checked(x, 0, 2, x.planned(0, 2) - 1, 12);
         checked(x, 0, 2, x.planned(0, 2) + 100, 13);
+        checked(x, 0, 2, 1L << 46, 13);
         checked(x, 0, 2, (1L << 46) + 1, 12);
         checked(x, 0, 3, x.planned(0, 3) - 1, 12);
         checked(x, 0, 3, x.planned(0, 3) + 65536, 13);
@@ -349,7 +412,9 @@ public final class PromiseTests {
         checked(x, 1, 5, (1L << 48) + 1, 24);
         checked(x, 1, 5, 1L << 48, 25);
         checked(x, 1, 5, x.planned(1, 5) + 65536, 26);
+        checked(x, 0, 6, 12, 27);
         checked(x, 0, 6, 13, 16);
+        checked(x, 0, 6, (1L << 32) + 2, 16);
         checked(x, 0, 6, 1, 16);
         checked(x, 0, 6, 3, 27);
         checked(x, 1, 6, 2, 27);
@@ -387,9 +452,10 @@ public final class PromiseTests {
         x.plan(47, 7, 0);
         x.forge(0, 5, 1L << 48);
         due("11: MOST' above 2^46", x.check(), 15);
-        x = new FilterBench();
-        x.section(1, 0, 0, 32767, 16383);
-        due("11: no plan of a HARD one", x.plan(47, 2, 0), -1);
+        // MOST T is 2^77 here.
+        x.plan(47, 24, 0);
+        x.forge(0, 5, 1L << 48);
+        due("11: a product beyond 64 bits", x.check(), 15);
     }
 
     private static void told() {
@@ -424,6 +490,23 @@ public final class PromiseTests {
         due("13: sample(-3)", x.sample(-3), -6144);
         due("13: sample(-3)", x.sample(-3), -24576);
         due("13: sample(0)", x.sample(0), -39936);
+    }
+
+    /** Over 2^SHIFT and rounded down, below 0 too. */
+    private static void shifts() {
+        FilterBench x = new FilterBench();
+        x.section(16384, 0, 0, -14336, 0);
+        due("13: OUT", x.plan(28, 24, 0), 0);
+        due("13: SHIFT", x.planned(0, 6), 3);
+        due("13: -8 over 8", x.sample(-1), -1);
+        due("13: -7 over 8", x.sample(0), -1);
+        due("13: y itself", x.kept(0, 2), -7);
+        x.forge(0, 6, 0);
+        due("13: -7, -6.125 down, over 8", x.sample(0), -1);
+        due("13: y itself", x.kept(0, 2), -7);
+        x.quiet();
+        x.sample(1);
+        due("13: 7 over 8", x.sample(0), 0);
     }
 
     private static void ways() {
