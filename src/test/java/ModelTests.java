@@ -8,9 +8,12 @@ public final class ModelTests {
             (1L << 44) + 1, (1L << 46) - 1, 1L << 46, (1L << 46) + 1, 1L << 48, (1L << 48) + 1, 1L << 50, (1L << 50) + 1,
             Long.MIN_VALUE, Long.MAX_VALUE};
 
+    /** No step of a run makes more calls than this. */
+    private static final int STEP = 220;
+
     private final Random random;
     private final StringBuilder trail = new StringBuilder();
-    private FilterBench bench = new FilterBench();
+    private Bench bench = new Bench();
     private Model model = new Model();
     private int wrong = 0;
     private int plans = 0, noPlans = 0, hard = 0;
@@ -22,7 +25,7 @@ public final class ModelTests {
 
     public static void main(String[] args) {
         long seed = args.length > 0 ? Long.parseLong(args[0]) : 1;
-        int runs = args.length > 1 ? Integer.parseInt(args[1]) : 250;
+        int runs = args.length > 1 ? Integer.parseInt(args[1]) : 500;
         ModelTests tests = new ModelTests(seed);
         tests.stability();
         for (int run = 0; run < runs; run++) tests.run();
@@ -65,6 +68,7 @@ public final class ModelTests {
             if (i % 2 == 0) c[0] = in(0, 1) == 0 ? most : -most;
             if (i % 50 == 0) c[in(0, 4)] = in(0, 1) == 0 ? 1001 : -1001;
             trail.setLength(0);
+            if (bench.left() == 0) bench = new Bench();
             same("isStable(" + degree + ", " + java.util.Arrays.toString(c) + ")",
                     bench.isStable(degree, c[0], c[1], c[2], c[3], c[4]), model.isStable(degree, c));
         }
@@ -133,7 +137,7 @@ public final class ModelTests {
     }
 
     private void all() {
-        for (int j = -1; j <= 6; j++) {
+        for (int j = -1; j <= model.sections.size(); j++) {
             for (int what = -1; what <= 9; what++) same("planned(" + j + ", " + what + ")", bench.planned(j, what), model.planned(j, what));
         }
     }
@@ -155,29 +159,33 @@ public final class ModelTests {
     private void samples() {
         int most = model.plan == null ? 5 : 1 << (model.plan.k - 1);
         int style = random.nextInt(3);
-        for (int i = in(1, 20); i > 0; i--) {
+        for (int i = in(1, 18); i > 0; i--) {
             int x = style == 0 ? (random.nextBoolean() ? most : -most) : in(-most, most);
             if (style == 2) x = in(-2, 2);
             if (seldom()) x = random.nextBoolean() ? most + 1 : -most - 1;
             if (seldom()) x = edge();
             same("sample(" + x + ")", bench.sample(x), model.sample(x));
-            for (int j = -1; j <= 6; j++) {
-                for (int what = -1; what <= 5; what++) same("kept(" + j + ", " + what + ")", bench.kept(j, what), model.kept(j, what));
-            }
+            int j = in(-1, model.sections.size());
+            for (int what = -1; what <= 5; what++) same("kept(" + j + ", " + what + ")", bench.kept(j, what), model.kept(j, what));
             same("drift()", bench.drift(), model.drift());
         }
-        for (int i = -2; i <= 801; i += seldom() ? 1 : in(1, 9)) same("exact(" + i + ")", bench.exact(i), model.exact(i));
+        // Most bits that are 1 lie about the power of 2 that the value is times.
+        int from = model.plan == null ? 0 : 14 * (model.plan.samples.size() + model.sections.size()) - 40;
+        for (int i = 0; i < 30; i++) {
+            int bit = random.nextBoolean() ? index(-1, 799) : in(from, from + 60);
+            same("exact(" + bit + ")", bench.exact(bit), model.exact(bit));
+        }
         same("told(5)", bench.told(5), model.told(5));
     }
 
     private void run() {
-        bench = new FilterBench();
+        bench = new Bench();
         model = new Model();
         trail.setLength(0);
         boolean wild = random.nextInt(10) == 0;
         int wanted = in(0, 6);
         for (int i = 0; i < wanted; i++) section(wild);
-        for (int step = 0; step < 14; step++) {
+        while (bench.left() > STEP) {
             switch (random.nextInt(12)) {
                 case 0: section(wild); break;
                 case 1: if (seldom()) same("clear()", bench.clear(), model.clear()); break;
