@@ -180,6 +180,11 @@ public final class CertificateBoundaryTests {
             long times = x.about(0, 3) * 65536;
             Due.due("NORM of " + a[0] + ", " + a[1], x.about(0, 5), times / d + (times % d == 0 ? 0 : 1));
         }
+        // Divided by D without a rest, and with a rest of 1.
+        certificate(-8811, 2693, 3, 8226505989L, 915834115L, 10456203264L);
+        certificate(7385, -3589, 4, 11047980511L, 1638722298L, 17863868416L);
+        certificate(9086, -3115, 4, 12128292234L, 2044594853L, 23148200480L);
+        certificate(6590, 3890, 3, 7777288581L, 735052163L, 9383316786L);
     }
 
     private static void gain() {

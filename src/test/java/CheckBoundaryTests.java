@@ -16,6 +16,7 @@ public final class CheckBoundaryTests {
         norms();
         gains();
         grownAtMost();
+        grownUp();
         beyond64Bits();
         shifts();
         mostAndSlip();
@@ -251,6 +252,33 @@ public final class CheckBoundaryTests {
         checked("SLIP' one more, with its MOST and SLIP", x, 26, 0, MOST, (1L << 34) + (1L << 17), 0, SLIP, 3);
     }
 
+    private static void grownUp() {
+        Due.says("CHECKED: 5 T = GAIN / 65536, rounded up, and MOST' is MOST T / 65536, rounded up");
+        // A section of 0s has any GAIN: MOST' is MOST / 65536 by T 1, and so on.
+        Bench x = Due.of(0, 0, 0, 0, 0);
+        x.plan(47, 10, 0);
+        checked("GAIN 0", x, 0, 0, GAIN, 0, 0, MOST, 0);
+        long[][] gainAndMost = {{1, 1 << 17}, {65536, 1 << 17}, {65537, 1 << 18}, {131072, 1 << 18}, {131073, 3 << 17}};
+        for (long[] g : gainAndMost) {
+            checked("GAIN " + g[0] + ", MOST just it", x, 0, 0, GAIN, g[0], 0, MOST, g[1]);
+            checked("GAIN " + g[0] + ", MOST one less", x, 16, 0, MOST, g[1] - 1);
+        }
+        x = Due.of(0, 0, 0, 0, 0, 0, 0, 0, 0, 0);
+        x.plan(47, 10, 0);
+        // What comes of the place before, by T 1: up from 65536 times a number on.
+        long[][] before = {{0, 0}, {1, 1}, {65535, 1}, {65536, 1}, {65537, 2}, {131072, 2}, {131073, 3}};
+        for (long[] b : before) {
+            x.forge(1, GAIN, 1);
+            x.forge(1, MOST, 1 << 20);
+            x.forge(1, SLIP, 1 << 20);
+            checked("MOST " + b[0] + ", just it", x, 0, 0, MOST, b[0], 0, SLIP, 2, 1, MOST, b[1]);
+            if (b[1] > 0) checked("MOST " + b[0] + ", one less", x, 26, 1, MOST, b[1] - 1);
+            long slip = Math.max(2, b[0]);
+            checked("SLIP " + slip + ", just it", x, 0, 0, SLIP, slip, 1, MOST, b[1], 1, SLIP, Math.max(1, b[1]) + 2);
+            checked("SLIP " + slip + ", one less", x, 26, 1, SLIP, Math.max(1, b[1]) + 1);
+        }
+    }
+
     private static void beyond64Bits() {
         Due.says("CHECKED: Quotients and products that are too great for 64 bits each are as they are");
         // 2^45 times 2^32; then all of MOST's 46 bits times 2^32; then SLIP's.
@@ -261,6 +289,17 @@ public final class CheckBoundaryTests {
         checked("MOST T 2^78", x, 25, 0, MOST, (1L << 46) - 3, 1, GAIN, 1L << 48);
         x = pair();
         checked("SLIP T 2^77", x, 25, 0, SLIP, 1L << 45, 1, GAIN, 1L << 48);
+        // By NEAREST SLIP' is 1, and MOST' not less for it.
+        for (int way = 0; way <= 2; way++) {
+            x = Due.same();
+            x.plan(47, 24, way);
+            checked("MOST T 2^77 by WAY " + way, x, 15, 0, GAIN, 1L << 48);
+            // MOST is 2^30: MOST T is 2^62, and then 2^30 less, which is good.
+            x.plan(47, 7, way);
+            checked("MOST T 2^62", x, 15, 0, GAIN, 1L << 48);
+            checked("MOST T 2^30 below", x, 16, 0, GAIN, (1L << 48) - 65536);
+            checked("with its MOST", x, 0, 0, MOST, (1L << 46) - (1L << 14));
+        }
         // 2^32 times 2^32 is 0 in 64 bits, 2^31 times 2^32 below 0.
         for (int bits = 28; bits <= 45; bits++) {
             x = Due.of(16384, 0, 0, 0, 0, 0, 0, 0, 0, 0);

@@ -16,6 +16,7 @@ public final class FilterBoundaryTests {
         driftOf32();
         driftRefused();
         driftRoundedDown();
+        greatDrift();
         bitsOfSize();
         belowZero();
         greatestPower();
@@ -305,6 +306,26 @@ public final class FilterBoundaryTests {
         }
     }
 
+    private static void greatDrift() {
+        Due.says("15: The DRIFT of the latest sample, below SLIP of the last place");
+        // Six sections with great gains make much of what the first one rounds.
+        int[] in = {-1, -2, -2, -2, -2, -2, -2, -2, -2, -2, -2, -2, -2, -2, -2, -2, -2, -2, -2, -2, -2, -2, -2, -2, -2, -2, -2, -2,
+            -2, -2, -2, -2};
+        Model model = new Model();
+        Bench x = new Bench();
+        for (int i = 0; i < 6; i++) {
+            model.section(30803, 30803, 30803, -23614, 8508);
+            x.section(30803, 30803, 30803, -23614, 8508);
+        }
+        Due.due("plan(47, 2, 0)", x.plan(47, 2, 0), model.plan(47, 2, 0));
+        for (int i = 0; i < in.length; i++) {
+            Due.due("sample " + i, x.sample(in[i]), model.sample(in[i]));
+            Due.due("drift " + i, x.drift(), model.drift());
+        }
+        Due.due("drift 31", x.drift(), 5894116826L);
+        Due.due("SLIP", x.planned(5, 8), 5638755797235L);
+    }
+
     /** Value times 2^shift, all 800 bits of it, on benches of few calls each. */
     private static void bits(String call, int[] section, int[] in, long value, int shift) {
         for (int from = 0; from < 800; from += 400) {
@@ -336,6 +357,13 @@ public final class FilterBoundaryTests {
         bits("-3 over 2^14", back, new int[] {1, 0}, -3, 14);
         bits("9 over 2^28", back, new int[] {1, 0, 0}, 9, 14);
         bits("-27 over 2^42", back, new int[] {1, 0, 0, 0}, -27, 14);
+        // All five numbers: each y over 2^14 more than the one before.
+        int[] all = {2, 3, 5, 7, 11};
+        long n0 = 2, n1 = (3L << 14) - 7 * n0, n2 = (5L << 28) - 7 * n1 - 11 * (n0 << 14), n3 = -7 * n2 - 11 * (n1 << 14);
+        bits("b0", all, new int[] {1}, n0, 0);
+        bits("b1, a1", all, new int[] {1, 0}, n1, 0);
+        bits("b2, a2", all, new int[] {1, 0, 0}, n2, 0);
+        bits("a1, a2", all, new int[] {1, 0, 0, 0}, n3, 0);
     }
 
     private static void belowZero() {
@@ -415,9 +443,34 @@ public final class FilterBoundaryTests {
         x = Due.full();
         for (int i = 0; i < 98; i++) x.sample(i);
         Due.due("of a hundred", x.quiet(), 100);
+        for (int way = 0; way <= 2; way++) quietOfSix(way);
         Due.says("17: NONE: no plan");
         Due.leaves("of none", Due::empty, y -> y.quiet(), -1);
         Due.leaves("without a plan", Due::same, y -> y.quiet(), -1);
         Due.leaves("with a HARD one", Due::hard, y -> y.quiet(), -1);
+    }
+
+    /** All that six sections keep is 0 again, by quiet() and by a new plan, in the exact filter too. */
+    private static void quietOfSix(int way) {
+        for (int again = 0; again <= 1; again++) {
+            Bench x = six(way), twin = six(way);
+            for (int i = 0; i < 4; i++) x.sample(511 - 100 * i);
+            boolean left = false;
+            for (int j = 0; j < 6; j++) left |= x.kept(j, 4) != 0;
+            Due.due("LEFT is there", left ? 1 : 0, 1);
+            if (again == 0) x.quiet();
+            else x.plan(40, 10, way);
+            Due.due("as a new plan", Due.state(x).equals(Due.state(twin)) ? 1 : 0, 1);
+            for (int v : new int[] {0, 0, 333, -512}) Due.due("sample(" + v + ")", x.sample(v), twin.sample(v));
+            Due.due("the same samples", Due.state(x).equals(Due.state(twin)) ? 1 : 0, 1);
+            for (int i = 0; i < 130; i++) Due.due("exact(" + i + ")", x.exact(i), twin.exact(i));
+        }
+    }
+
+    private static Bench six(int way) {
+        Bench x = new Bench();
+        for (int i = 0; i < 6; i++) x.section(16301 - i, 77 + i, -1003 + i, 901 + i, -503 - i);
+        x.plan(40, 10, way);
+        return x;
     }
 }

@@ -178,13 +178,25 @@ public final class ModelTests {
         same("told(5)", bench.told(5), model.told(5));
     }
 
+    /** Sections that make much of what was rounded before them, so that drifts are great. */
+    private void greatGains() {
+        int[] s = {in(15000, 32767), in(15000, 32767), in(15000, 32767), in(-25000, -20000), 0};
+        s[4] = s[3] / 128 * (s[3] / 128) / 4;
+        for (int i = in(2, 6); i > 0; i--) {
+            same("section" + java.util.Arrays.toString(s), bench.section(s), model.section(s));
+        }
+        same("plan(47, 2, 0)", bench.plan(47, 2, 0), model.plan(47, 2, 0));
+        samples();
+    }
+
     private void run() {
         bench = new Bench();
         model = new Model();
         trail.setLength(0);
         boolean wild = random.nextInt(10) == 0;
         int wanted = in(0, 6);
-        for (int i = 0; i < wanted; i++) section(wild);
+        if (random.nextInt(20) == 0) greatGains();
+        else for (int i = 0; i < wanted; i++) section(wild);
         while (bench.left() > STEP) {
             switch (random.nextInt(12)) {
                 case 0: section(wild); break;

@@ -237,6 +237,16 @@ public final class SectionBoundaryTests {
             stable(1, inside[i].length - 1, inside[i]);
             stable(1, inside[i].length - 1, Arrays.stream(inside[i]).map(v -> -v).toArray());
         }
+        // The last number greater than the first, by either sign.
+        for (int last : new int[] {-1000, -2, 2, 1000}) {
+            for (int degree = 1; degree <= 4; degree++) {
+                int[] c = {1, 0, 0, 0, 0};
+                c[degree] = last;
+                stable(0, degree, c);
+                c[0] = -1;
+                stable(0, degree, c);
+            }
+        }
         // Roots that are all outside, whose numbers turned round are stable.
         stable(0, 1, 1, 2);
         stable(0, 2, 1, 2, 4);
